@@ -245,11 +245,17 @@ public final class LockOrchestra {
         }
         int all = hall.bitsOfAll(NOTES);
         search.seekDoors(doors);
+        long tooFew = 0;
         for (int size = 0; size <= MOST_NOTES; size++) {
             for (int bits = 0; bits <= all; bits++) {
-                if (Integer.bitCount(bits) == size && search.find(hall, now.state(), all & ~bits) == NONE) {
+                if (Integer.bitCount(bits) != size || (tooFew >> bits & 1) == 1) {
+                    continue;
+                }
+                int place = search.find(hall, now.state(), all & ~bits);
+                if (place == NONE) {
                     return bits;
                 }
+                tooFew |= setsWithout(search.notesTo(place));
             }
         }
         return NONE;
@@ -476,6 +482,15 @@ public final class LockOrchestra {
         return NONE;
     }
 
+    /** As bits, all sets of notes that have none of these: to forbid them leaves a way of these open. */
+    private static long setsWithout(int notes) {
+        long sets = 0;
+        for (int bits = 0; bits < 1 << MOST_NOTES; bits++) {
+            sets |= (bits & notes) == 0 ? 1L << bits : 0;
+        }
+        return sets;
+    }
+
     private void playOne(int note) {
         int before = now.state();
         now.goTo(hall.after(before, note));
@@ -645,7 +660,7 @@ public final class LockOrchestra {
         }
 
         boolean isFull(int kind) {
-            return count(kind) >= cell(MOST_OF_KIND, kind);
+            return cell(counts, kind) >= cell(MOST_OF_KIND, kind);
         }
 
         boolean isOne(int kind, int which) {
@@ -1311,28 +1326,24 @@ public final class LockOrchestra {
             words.begin();
             int statements = 0;
             for (; statements < MOST_STATEMENTS && !words.isEnd(); statements++) {
-                readStatement(hall);
+                if (words.isWord("lock")) {
+                    readLock(hall);
+                } else if (words.isWord("note")) {
+                    readNote(hall);
+                } else if (words.isWord("door")) {
+                    readDoor(hall);
+                } else if (words.isWord("player")) {
+                    readPlayer(hall);
+                } else {
+                    words.needWord("rust");
+                    hall.tellRust(words.needNumber(0, 100));
+                }
                 words.needSign(';');
             }
             if (!words.isEnd()) {
                 words.failHere(TOO_MANY);
             }
             return words.faultKind() == 0 ? statements : NONE;
-        }
-
-        private void readStatement(Hall hall) {
-            if (words.isWord("lock")) {
-                readLock(hall);
-            } else if (words.isWord("note")) {
-                readNote(hall);
-            } else if (words.isWord("door")) {
-                readDoor(hall);
-            } else if (words.isWord("player")) {
-                readPlayer(hall);
-            } else {
-                words.needWord("rust");
-                hall.tellRust(words.needNumber(0, 100));
-            }
         }
 
         /** The number of the one that the statement tells, its name taken; NONE with a fault. */
@@ -1587,6 +1598,17 @@ public final class LockOrchestra {
                 at = cell(cameFrom, at);
             }
             return cell(cameBy, at);
+        }
+
+        /** Which notes the way to a place has, as bits. */
+        int notesTo(int place) {
+            int bits = 0;
+            int at = place;
+            for (int step = lengthTo(place); step > 0; step--) {
+                bits |= 1 << cell(cameBy, at);
+                at = cell(cameFrom, at);
+            }
+            return bits;
         }
 
         private int lengthTo(int place) {
