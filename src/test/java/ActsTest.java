@@ -132,8 +132,9 @@ public final class ActsTest {
         keptRow(x, 39, 40, 1, 0);
         Check.piece(x, 1, 1, 1);
         Check.due("has(8), forty at most", 40, x.has(8));
-        keptRow(x, 0, 4, 1, 0);
-        keptRow(x, 39, 43, 1, 1);
+        for (int k = 0; k < 40; k++) {
+            keptRow(x, k, 4 + k, 1, k % 2);
+        }
         Check.due("kept(40, 0)", -1, x.kept(40, 0));
         x.undo();
         Check.due("has(8)", 40, x.has(8));

@@ -14,6 +14,7 @@ public final class HallTest {
         faultOfMany();
         faultsInTests();
         letters();
+        hallBehindHall();
         whatAHallChanges();
         Check.end("HallTest");
     }
@@ -74,6 +75,7 @@ public final class HallTest {
         Check.hallFails(x, "lock 1 wards 3 at 0;", 1, 5);
         Check.hallFails(x, "lock l 3 at 0;", 1, 7);
         for (String own : OWN) {
+            x = new LockOrchestra();
             Check.hallFails(x, "lock " + own + " wards 3 at 0;", 1, 5);
             Check.hallFails(x, LOCK + "note n turns " + own + " 1;", 1, 33);
         }
@@ -129,6 +131,11 @@ public final class HallTest {
         Check.hallFails(x, LOCK + "note n turns l 1 x 2;", 3, 37);
         Check.hallFails(x, LOCK + "note n turns x1;", 3, 33);
         Check.hallFails(x, LOCK + "note n turns lx 1;", 3, 33);
+        // behind as many as can be one more is told already
+        String four = "lock a wards 2 at 0;lock b wards 2 at 0;lock c wards 2 at 0;lock d wards 2 at 0;";
+        Check.hallFails(x, four + "note n turns a 1 b 1 c 1 d 1 a 1;", 3, 109);
+        String six = LOCK + "note a turns l 1;note b turns l 1;note c turns l 1;note d turns l 1;note e turns l 1;note f turns l 1;";
+        Check.hallFails(x, six + "player p plays a b c d e f b;", 3, six.length() + 27);
     }
 
     private static void faultOfDepth() {
@@ -151,6 +158,10 @@ public final class HallTest {
         Check.hallFails(x, d + "not not not not not not min(1,2)=1;", 4, 40);
         Check.hallFails(x, d + "not not not not not not 1=1 and not (;", 1, 50);
         Check.hallFails(x, d + "[[[[[[not", 4, 19);
+        Check.hallIs(x, d + "min(min(min(min(min(min(1,2),2),2),2),2),2)=1;", 1);
+        Check.hallIs(x, d + "max(1,max(1,max(1,max(1,max(1,max(1,2))))))=2;", 1);
+        Check.hallFails(x, d + "min(min(min(min(min(min(min(1,2),2),2),2),2),2),2)=1;", 4, 40);
+        Check.hallFails(x, d + "max(1,max(1,max(1,max(1,max(1,max(1,max(1,2)))))))=2;", 4, 52);
         // what has ended is open no more
         Check.hallIs(x, d + "at 1+at 1+at 1+at 1+at 1+at 1+at 1+at 1=1 and (1)+(1)+(1)+(1)+(1)+(1)+(1)=7;", 1);
     }
@@ -204,6 +215,7 @@ public final class HallTest {
         Check.hallFails(x, d + "min 1,2)=1;", 1, 17);
         Check.hallFails(x, d + "min(1)=1;", 1, 18);
         Check.hallFails(x, d + "max(1,2,3)=1;", 1, 20);
+        Check.hallFails(x, d + "min=1;", 1, 16);
         Check.hallFails(x, d + "1+all=1;", 1, 15);
         Check.hallFails(x, d + "at all=1;", 1, 16);
         Check.hallFails(x, d + "at=1;", 1, 15);
@@ -229,11 +241,54 @@ public final class HallTest {
         Check.due("letter(2, 0, 0)", 17, x.letter(2, 0, 0));
         Check.due("letter(3, 0, 1)", 5, x.letter(3, 0, 1));
         Check.due("letter(0, 0, 6)", -1, x.letter(0, 0, 6));
+        LockOrchestra y = Check.orchestra("lock a wards 2 at 0;lock b wards 2 at 0;lock c wards 2 at 0;lock d wards 2 at 0;"
+            + "note e turns a 1;note f turns a 1;door g opens all;door h opens all;door i opens all;player j plays e;"
+            + "player k plays e;");
+        int[] many = {4, 2, 3, 2};
+        int letter = 1;
+        for (int kind = 0; kind < 4; kind++) {
+            for (int which = 0; which < many[kind]; which++) {
+                Check.due("letter(" + kind + ", " + which + ", 0)", letter++, y.letter(kind, which, 0));
+            }
+        }
         Check.due("letter(0, 0, -1)", -1, x.letter(0, 0, -1));
         Check.due("letter(0, 1, 0)", -1, x.letter(0, 1, 0));
         Check.due("letter(0, -1, 0)", -1, x.letter(0, -1, 0));
         Check.due("letter(4, 0, 0)", -1, x.letter(4, 0, 0));
         Check.due("letter(-1, 0, 0)", -1, x.letter(-1, 0, 0));
+    }
+
+    /** Nothing of an earlier hall is left in a later one, with a fault between them or not. */
+    private static void hallBehindHall() {
+        LockOrchestra x = new LockOrchestra();
+        String steps = "1" + "+1".repeat(700);
+        for (int k = 0; k < 3; k++) {
+            Check.hallIs(x, "lock a wards 3 at 2 jams 1;lock b wards 4 at 3;note n turns a 4 b 2;note m turns b 1;"
+                + "door d opens at 0=2;door e opens all;player p plays n m;rust 50;", 8);
+            Check.due("has(7)", 3, x.has(7));
+            Check.due("has(4)", 50, x.has(4));
+            Check.hallIs(x, "lock a wards 2 at 1;note n turns a 1;door d opens at 0=0;", 3);
+            Check.due("has(0)", 1, x.has(0));
+            Check.due("has(1)", 1, x.has(1));
+            Check.due("has(2)", 1, x.has(2));
+            Check.due("has(3)", 0, x.has(3));
+            Check.due("has(4)", 0, x.has(4));
+            Check.due("has(7)", 0, x.has(7));
+            Check.due("note(0, 1)", 0, x.note(0, 1));
+            Check.due("states()", 2, x.states());
+            Check.due("lock(0, 3)", -1, x.lock(0, 3));
+            Check.hallFails(x, "lock c wards 5 at 4;lock d wards 5 at 4;note n turns d 4;door d", 3, 62);
+            Check.due("play(0)", 1, x.play(0));
+            Check.hallIs(x, "lock c wards 5 at 4;lock d wards 5 at 4;note n turns d 4;", 3);
+            Check.due("note(0, 10)", 0, x.note(0, 10));
+            Check.due("note(0, 11)", 4, x.note(0, 11));
+            Check.due("states()", 5, x.states());
+            Check.hallIs(x, "door z opens " + steps + "=701;", 1);
+            Check.due("has(7)", 1, x.has(7));
+            Check.hallIs(x, "lock l wards 2 at 0;note n turns l 1;player p plays n;player q plays n;", 4);
+            Check.due("player(0)", 1, x.player(0));
+            Check.due("note(0, 1)", 3, x.note(0, 1));
+        }
     }
 
     private static void whatAHallChanges() {

@@ -144,12 +144,17 @@ public final class PiecesTest {
         Check.due("states()", 8, x.states());
         x.play(2);
         Check.due("states(), jammed", 2, x.states());
+        x = Check.orchestra(HALL);
+        Check.due("shortest(1, -1)", 1, x.shortest(1, -1));
+        Check.due("states() behind another search", 8, x.states());
         Check.due("states() of no notes", 1, Check.orchestra("lock a wards 3 at 1;").states());
         StringBuilder b = new StringBuilder();
         for (String name : new String[] {"a", "b", "c", "d"}) {
             b.append("lock ").append(name).append(" wards 5 at 4 jams 4;note n").append(name).append(" turns ").append(name).append(" 1;");
         }
         Check.due("states(), as many as can be", 1296, Check.orchestra(b.toString()).states());
+        String near = b.toString().replace("at 4", "at 3");
+        Check.due("states(), each lock as told or jammed", 16, Check.orchestra(near).states());
     }
 
     private static void forbidden() {
@@ -168,6 +173,14 @@ public final class PiecesTest {
         Check.due("forbid(2), open now", -1, x.forbid(2));
         Check.due("forbid(3), one of them open now", 5, x.forbid(3));
         Check.due("nothing is refused", 0, x.status(1));
+        // one note of higher bits is fewer than two of lower ones
+        x = Check.orchestra("lock a wards 3 at 0;lock b wards 2 at 0;note n turns a 1;note m turns a 2;note o turns b 1;"
+            + "door d opens at 0>0 and at 1=1;");
+        Check.due("forbid(1): o, not n and m", 4, x.forbid(1));
+        // each note opens it by itself
+        x = Check.orchestra("lock a wards 5 at 0;note n turns a 1;note m turns a 2;note o turns a 3;note p turns a 4;"
+            + "note q turns a 1;note r turns a 2;door d opens at 0>0;");
+        Check.due("forbid(1): all six", 63, x.forbid(1));
         // all of them open, others may be, too
         x = Check.orchestra("lock a wards 2 at 0;note n turns a 1;door d opens at 0=1;door e opens all;");
         Check.due("forbid(1) with another one open", 1, x.forbid(1));
@@ -195,6 +208,9 @@ public final class PiecesTest {
         Check.due("share 4", -1, Check.share(x, 4));
         Check.due("status(1)", 2, x.status(1));
         Check.due("the tape went", 20, x.feed(0, 0, 0, 0, 0));
+        x = Check.orchestra("lock a wards 2 at 0;note n turns a 1;note m turns a 1;note o turns a 1;note p turns a 1;"
+            + "note q turns a 1;player s plays n;player t plays m;player u plays o;player v plays p;player w plays q;");
+        Check.due("share among all five", 31, Check.share(x, 4, 3, 2, 1, 0));
         x = Check.orchestra("lock a wards 2 at 0;note n turns a 1;note m turns a 1;player p plays n;");
         Check.due("share of a note that nobody has", -1, Check.share(x, 1));
         Check.due("status(1)", 0, x.status(1));

@@ -58,6 +58,14 @@ public final class QuestionTest {
         asks(x, "often[ward=1 or ward=4]and not stuck=1", 2);
         asks(x, "most(wards)", 5);
         Check.due("ask() changes nothing", 1, x.has(5));
+        // one long question behind the other
+        x = Check.orchestra(HALL);
+        x.play(0);
+        String longest = "total 1" + "+1".repeat(790);
+        for (int k = 0; k < 3; k++) {
+            asks(x, longest, 3 * 791);
+        }
+        asks(x, "total ward", 6);
     }
 
     private static void withoutLocks() {
