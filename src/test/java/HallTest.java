@@ -15,6 +15,7 @@ public final class HallTest {
         faultsInTests();
         letters();
         hallBehindHall();
+        nothingRemembered();
         whatAHallChanges();
         Check.end("HallTest");
     }
@@ -288,6 +289,21 @@ public final class HallTest {
             Check.hallIs(x, "lock l wards 2 at 0;note n turns l 1;player p plays n;player q plays n;", 4);
             Check.due("player(0)", 1, x.player(0));
             Check.due("note(0, 1)", 3, x.note(0, 1));
+        }
+    }
+
+    /** What was worked out for an earlier hall does not count in a later one. */
+    private static void nothingRemembered() {
+        LockOrchestra x = new LockOrchestra();
+        for (String test : new String[] {"all", "not all", "not all", "all", "all", "not all"}) {
+            Check.hallIs(x, "lock a wards 2 at 0;door d opens " + test + ";", 2);
+            Check.due("has(7), " + test, test.equals("all") ? 1 : 0, x.has(7));
+        }
+        String locks = "lock a wards 2 at 0;lock b wards 2 at 0 jams 1;note n turns b 1;note m turns a 1";
+        for (String more : new String[] {" b 1;", ";", ";", " b 1;", " b 1;", ";"}) {
+            Check.hallIs(x, locks + more, 4);
+            x.play(0);
+            Check.due("note(1, 0), turning a" + more, more.equals(";") ? 1 : 0, x.note(1, 0));
         }
     }
 
