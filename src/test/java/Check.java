@@ -20,6 +20,14 @@ final class Check {
         due(call, want ? 1 : 0, got ? 1 : 0);
     }
 
+    static int looked() {
+        return looked;
+    }
+
+    static int wrong() {
+        return wrong;
+    }
+
     static void end(String test) {
         System.out.println(test + ": " + looked + " answers, " + wrong + " wrong");
         if (wrong != 0 || looked == 0) {
@@ -92,6 +100,24 @@ final class Check {
     static long ask(LockOrchestra x, String question) {
         tape(x, question);
         return x.ask();
+    }
+
+    /** A hall's text with a ^ at the place of its fault. */
+    static void hallFault(int fault, String marked) {
+        int place = marked.indexOf('^');
+        hallFails(new LockOrchestra(), marked.substring(0, place) + marked.substring(place + 1), fault, place);
+    }
+
+    /** A question's text with a ^ at the place of its fault. */
+    static void askFault(String hall, int fault, String marked) {
+        int place = marked.indexOf('^');
+        askFails(orchestra(hall), marked.substring(0, place) + marked.substring(place + 1), fault, place);
+    }
+
+    static LockOrchestra hallGood(int statements, String text) {
+        LockOrchestra x = new LockOrchestra();
+        hallIs(x, text, statements);
+        return x;
     }
 
     static void hallIs(LockOrchestra x, String text, int statements) {
