@@ -333,6 +333,7 @@ public final class BoundsOfCallsTest {
         y.evening(20);
         Check.due("lock(0, 1)", y.lock(0, 1), x.lock(0, 1));
         Check.due("lock(1, 1)", y.lock(1, 1), x.lock(1, 1));
+        fewerBehindMore();
         // refused ones stay counted
         x = new LockOrchestra();
         x.undo();
@@ -340,6 +341,36 @@ public final class BoundsOfCallsTest {
         Check.hallIs(x, two, 5);
         Check.due("status(4) stays", 1, x.status(4));
         Check.due("status(0) stays", 1, x.status(0));
+    }
+
+    /** A hall of fewer of each kind tells nothing of those of more that were ahead of it. */
+    private static void fewerBehindMore() {
+        String more = "lock a wards 5 at 4 jams 1;lock b wards 5 at 3 jams 2;lock c wards 5 at 2;lock d wards 5 at 1;note e turns a 4 b 3 c 2;"
+            + "note f turns d 4;note g turns c 4;door h opens at 1=3;door i opens at 3=1;door j opens all;player k plays e f g;"
+            + "player l plays g;rust 100;";
+        String fewer = "lock a wards 2 at 0;note n turns a 1;door d opens at 0=0;player p plays n;";
+        LockOrchestra x = new LockOrchestra();
+        LockOrchestra only = Check.orchestra(fewer);
+        String first = picture(only);
+        for (int times = 0; times < 3; times++) {
+            // twice, so that no room inside is left without it
+            Check.hallIs(x, more, 13);
+            Check.hallIs(x, more, 13);
+            x.play(1);
+            x.evening(3);
+            Check.hallIs(x, fewer, 4);
+            same("fewer behind more", first, x);
+            others("hangs", x::hangs, 1);
+            others("door", x::door, 1);
+            others("player", x::player, 1);
+            Check.due("note(0, 1)", 1, x.note(0, 1));
+            Check.due("note(0, 11)", -1, x.note(0, 11));
+            Check.due("total wards", 2, Check.ask(x, "total wards"));
+            Check.due("total turns 1", 0, Check.ask(x, "total turns 1"));
+            Check.due("most at 1", -1, Check.ask(x, "most at 1"));
+            Check.due("image()", 5, x.image());
+            Check.due("shortest(0, -1)", 1, x.shortest(0, -1));
+        }
     }
 
     private static void latestFault() {

@@ -241,6 +241,18 @@ public final class BoundsOfQuestionsTest {
             fails(1, "^" + word + " all");
             fails(1, " \n^" + word);
         }
+        // each letter of each word counts
+        String[] known = {"^first all", "^last all", "^often all", "^total 1", "^most 1", "^least 1", "total ^number", "total ^wards",
+            "total ^ward", "total ^stuck", "total ^jams", "total ^at 0", "total ^turns 0", "total ^min(1,2)", "total ^max(1,2)",
+            "first ^not all", "first ^all", "first all ^and all", "first all ^or all"};
+        for (String text : known) {
+            for (int k = text.indexOf('^') + 1; k < text.length() && Character.isLetter(text.charAt(k)); k++) {
+                fails(1, text.substring(0, k) + "q" + text.substring(k + 1));
+            }
+            LockOrchestra x = played();
+            Check.ask(x, text.replace("^", ""));
+            Check.due("fault(0) of " + text, 0, x.fault(0));
+        }
         String[] unknown = {"foo", "a", "n", "lock", "note", "door", "opens", "player", "plays", "rust", "or", "and", "first",
             "total", "most", "numbers", "numbe", "warden", "war", "stucks", "jam", "abcdefghijkl", "minn", "mi", "nots", "Ward"};
         for (String word : unknown) {

@@ -517,7 +517,7 @@ public final class BoundsOfTextTest {
     }
 
     private static void wholeWords() {
-        // each word of the statements cut by a letter, lengthened by one, with another letter, or another kind of thing
+        // each word of the statements with another letter, cut by one, lengthened by one
         for (int k = 0; k < TOKENS.length; k++) {
             String word = TOKENS[k];
             if (!isOwn(word)) {
@@ -527,7 +527,9 @@ public final class BoundsOfTextTest {
             String behind = " " + joined(k + 1, TOKENS.length, " ");
             Check.hallFault(1, ahead + word + "q" + behind);
             Check.hallFault(1, ahead + "q" + word + behind);
-            Check.hallFault(1, ahead + word.substring(0, word.length() - 1) + "q" + behind);
+            for (int letter = 0; letter < word.length(); letter++) {
+                Check.hallFault(1, ahead + word.substring(0, letter) + "q" + word.substring(letter + 1) + behind);
+            }
             Check.hallFault(1, ahead + word.substring(0, word.length() - 1) + behind);
             Check.hallFault(1, ahead + word.substring(0, word.length() - 1));
             Check.hallFault(1, ahead + word.toUpperCase(java.util.Locale.ROOT) + behind);
