@@ -9,6 +9,10 @@ public final class BoundsOfCallsTest {
         + "door d opens at 0=1;door e opens at 1=2;door f opens jams>0;player p plays n;player q plays n m;rust 0;";
 
     public static void main(String[] args) {
+        Sentence.of("What it is", "An object is used for at most 512 calls after it has been made;", BoundsOfCallsTest::manyCalls);
+        Sentence.of("Terms", "`NONE = -1`: There is none; it is refused.", BoundsOfCallsTest::noneIsBelowZero);
+        Sentence.of("Terms", "`NOTHING = -1000000000000000L`: Told where a number below 0 may be one.",
+            BoundsOfCallsTest::nothingIsFarBelow);
         tapeAndHall();
         whatThereIs();
         pieces();
@@ -175,6 +179,56 @@ public final class BoundsOfCallsTest {
         return x;
     }
 
+    // ---- an object's calls, the constants
+
+    private static void manyCalls() {
+        // 3 calls for the hall, then as many notes as are left but for the last call
+        LockOrchestra x = new LockOrchestra();
+        x.feed(0x6c6f636b, 0x20612077, 0x61726473, 0x20322061, 0x7420303b); // "lock a wards 2 at 0;"
+        x.feed(0x6e6f7465, 0x206e2074, 0x75726e73, 0x20612031, 0x3b202020); // "note n turns a 1;"
+        Check.due("hall()", 2, x.hall());
+        for (int call = 4; call < 512; call++) {
+            Check.due("call " + call, 0, x.play(0));
+        }
+        Check.due("has(5), call 512", 508, x.has(5));
+        // 512 that are refused are all counted
+        x = new LockOrchestra();
+        for (int call = 1; call < 512; call++) {
+            Check.due("call " + call, false, x.undo());
+        }
+        Check.due("status(4), call 512", 511, x.status(4));
+        // a tape that is full and cut again and again
+        x = new LockOrchestra();
+        for (int call = 1; call < 512; call++) {
+            Check.due("call " + call, call <= 80 ? 20 * call : -1, x.feed(-1, -1, -1, -1, -1));
+        }
+        Check.due("status(0), call 512", 431, x.status(0));
+        // halls one behind the other: 2 calls each, with an act between them
+        x = new LockOrchestra();
+        for (int call = 1; call < 511; call += 3) {
+            x.feed(0x6c6f636b, 0x20612077, 0x61726473, 0x20322061, 0x7420303b);
+            Check.due("call " + (call + 1), 1, x.hall());
+            Check.due("call " + (call + 2), 0, x.play(6));
+        }
+        Check.due("undo()", true, x.undo());
+        Check.due("undo(), call 512", false, x.undo());
+    }
+
+    private static void noneIsBelowZero() {
+        Check.due("NONE", -1, LockOrchestra.NONE);
+        LockOrchestra x = new LockOrchestra();
+        Check.due("there is none", LockOrchestra.NONE, x.lock(0, 0));
+        Check.due("it is refused", LockOrchestra.NONE, x.play(0));
+    }
+
+    private static void nothingIsFarBelow() {
+        Check.due("NOTHING", -1_000_000_000_000_000L, LockOrchestra.NOTHING);
+        LockOrchestra x = Check.orchestra(HALL);
+        Check.due("a fault", LockOrchestra.NOTHING, Check.ask(x, "total"));
+        Check.due("a number below 0", -1, Check.ask(x, "least at 9"));
+        Check.due("the least of all", -2000000, Check.ask(x, "total 0-9999*9999"));
+    }
+
     // ---- the tape, the hall
 
     private static void newObject() {
@@ -190,8 +244,6 @@ public final class BoundsOfCallsTest {
         Check.due("states()", 1, x.states());
         Check.due("back(-1)", 0, x.back(-1));
         tapeIs(x, 0);
-        Check.due("NONE", -1, LockOrchestra.NONE);
-        Check.due("NOTHING", -1_000_000_000_000_000L, LockOrchestra.NOTHING);
     }
 
     private static void fed() {

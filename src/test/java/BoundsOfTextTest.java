@@ -25,6 +25,7 @@ public final class BoundsOfTextTest {
         Sentence.of("I", "4 LOCKS), then jams N if it jams at a WARD", BoundsOfTextTest::whereItJams);
         Sentence.of("I", "note NAME turns NAME N { NAME N } (LOCKS, unlike ones", BoundsOfTextTest::locksOfANote);
         Sentence.of("I", "1 .. 4 WARDS on; 6 NOTES)", BoundsOfTextTest::wardsOn);
+        Sentence.of("I", "door NAME opens TEST (6 DOORS)", BoundsOfTextTest::sixDoors);
         Sentence.of("I", "player NAME plays NAME { NAME } (NOTES, unlike ones; 5 PLAYERS)", BoundsOfTextTest::notesOfAPlayer);
         Sentence.of("I", "rust N (0 .. 100, the last one counts, 0 without)", BoundsOfTextTest::rust);
     }
@@ -157,6 +158,19 @@ public final class BoundsOfTextTest {
         }
         Check.due("has(1)", 6, Check.hallGood(7, SIX).has(1));
         Check.hallFault(5, SIX + "^note g turns l 1;");
+    }
+
+    private static void sixDoors() {
+        StringBuilder text = new StringBuilder();
+        for (int many = 0; many <= 6; many++) {
+            LockOrchestra x = Check.hallGood(many, text.toString());
+            Check.due("has(2)", many, x.has(2));
+            Check.due("has(7), each open by its own test", 0b010101 & (1 << many) - 1, x.has(7));
+            text.append("door ").append((char) ('a' + many)).append(" opens 1<").append(2 - many % 2).append(';');
+        }
+        Check.hallFault(5, text.toString().replace("door g", "^door g"));
+        Check.hallFault(1, "door d opens^;");
+        Check.hallFault(1, "door d opens all^,all;");
     }
 
     private static void notesOfAPlayer() {

@@ -12,7 +12,7 @@ final class Sentence {
     private Sentence() {
     }
 
-    /** A part is I to IV, or a promise's number; its words must stand in that part as told here. */
+    /** A part is I to IV, a promise's number, or a heading; its words must stand in that part as told here. */
     static void of(String part, String words, Runnable test) {
         PARTS.add(part);
         if (!DOCUMENT.isEmpty()) {
@@ -36,8 +36,9 @@ final class Sentence {
 
     private static String textOf(String part) {
         boolean isPromise = Character.isDigit(part.charAt(0));
-        String from = isPromise ? "## Promise " + part + ": " : " " + part + ". ";
-        String[] ends = isPromise ? new String[] {"## "} : new String[] {" I. ", " II. ", " III. ", " IV. ", "The constants: "};
+        boolean isTerm = Set.of("I", "II", "III", "IV").contains(part);
+        String from = isPromise ? "## Promise " + part + ": " : isTerm ? " " + part + ". " : "## " + part + " ";
+        String[] ends = isTerm ? new String[] {" I. ", " II. ", " III. ", " IV. ", "The constants: "} : new String[] {"## "};
         int start = DOCUMENT.indexOf(from);
         if (start < 0) {
             return "";
