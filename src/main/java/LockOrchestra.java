@@ -1153,7 +1153,8 @@ public final class LockOrchestra {
             this.ofLocks = ofLocks;
         }
 
-        void readTest(Code code, int opened) {
+        // Private, though other readers call it: LANGUAGE.md wants recursion among private methods.
+        private void readTest(Code code, int opened) {
             readBoth(code, opened);
             for (int k = 0; k < MOST_BYTES && words.takeWord("or"); k++) {
                 readBoth(code, opened);
@@ -1190,7 +1191,7 @@ public final class LockOrchestra {
             }
         }
 
-        void readSum(Code code, int opened) {
+        private void readSum(Code code, int opened) {
             readProduct(code, opened);
             for (int k = 0; k < MOST_BYTES; k++) {
                 int step = takeEither('+', Code.PLUS, '-', Code.MINUS);

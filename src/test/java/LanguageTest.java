@@ -51,6 +51,7 @@ public final class LanguageTest extends TreePathScanner<Void, Void> {
     private final Map<String, Set<String>> calls = new TreeMap<>();
     private final Set<String> face = new TreeSet<>();
     private final Set<String> otherMethods = new TreeSet<>();
+    private final Set<String> privateMethods = new TreeSet<>();
     private final List<String> broken = new ArrayList<>();
     private int classes = 0;
 
@@ -86,9 +87,25 @@ public final class LanguageTest extends TreePathScanner<Void, Void> {
             int deep = deep(from, component, new TreeMap<>());
             Check.due("rule 11: calls go " + deep + " deep: " + (deep > 8 ? way(from, component) : from), true, deep <= 8);
         }
+        recursionIsPrivate(component);
         for (String what : broken) {
             Check.due(what, 0, 1);
         }
+    }
+
+    private void recursionIsPrivate(Map<String, Integer> component) {
+        int many = 0;
+        for (String from : calls.keySet()) {
+            boolean recurs = false;
+            for (String to : calls.get(from)) {
+                recurs |= component.get(to).equals(component.get(from));
+            }
+            if (recurs) {
+                many++;
+                Check.due("rule 8: private is " + from, true, privateMethods.contains(from));
+            }
+        }
+        Check.due("rule 8: recursion is seen", true, many > 0);
     }
 
     /** Methods that call one another get the same number: recursion is not counted as depth. */
@@ -211,6 +228,9 @@ public final class LanguageTest extends TreePathScanner<Void, Void> {
     @Override
     public Void visitMethod(MethodTree node, Void v) {
         calls.computeIfAbsent(keyOf(elementOf(node)), k -> new TreeSet<>());
+        if (elementOf(node).getModifiers().contains(Modifier.PRIVATE)) {
+            privateMethods.add(keyOf(elementOf(node)));
+        }
         long from = unit.getLineMap().getLineNumber(trees.getSourcePositions().getStartPosition(unit, node));
         long to = unit.getLineMap().getLineNumber(trees.getSourcePositions().getEndPosition(unit, node));
         if (node.getParameters().size() > 7 || to - from >= 60) {
